@@ -521,34 +521,26 @@ public final class TestimonyBook {
         }
 
         void addFirst(int line, Bytes source, int start, int end) {
-            add(line, NONE, 0);
-            copy(source, start, end);
+            add(line, NONE, 0, source, start, end);
         }
 
         void addRight(int line, int onDay, Bytes source, int start, int end) {
-            add(line, latest[line], onDay);
-            copy(source, start, end);
+            add(line, latest[line], onDay, source, start, end);
         }
 
-        private void add(int line, int earlier, int onDay) {
+        private void add(int line, int earlier, int onDay, Bytes source, int start, int end) {
             if (size >= most) {
                 return;
             }
             before[size] = earlier;
             day[size] = onDay;
             from[size] = text.size;
-            length[size] = 0;
-            latest[line] = size;
-            size++;
-        }
-
-        private void copy(Bytes source, int start, int end) {
+            length[size] = end - start;
             for (int i = start; i < end; i++) {
                 text.add(source.byteAt(i));
             }
-            if (size > 0) {
-                length[size - 1] = end - start;
-            }
+            latest[line] = size;
+            size++;
         }
 
         /** The rest that a line has on a day. */
