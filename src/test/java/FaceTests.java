@@ -89,7 +89,7 @@ public final class FaceTests {
         Matcher imports = Pattern.compile("import ([^;]*);").matcher(words);
         while (imports.find()) {
             trial.due("an import: " + imports.group(1),
-                    List.of("java.util.Arrays", "java.util.NoSuchElementException").contains(imports.group(1)) ? 1 : 0, 1);
+                    imports.group(1).matches("java.util.(Arrays|NoSuchElementException)") ? 1 : 0, 1);
         }
         Matcher thrown = Pattern.compile("throw ([^;]*);").matcher(words);
         while (thrown.find()) {

@@ -49,6 +49,7 @@ public final class FaultTests {
         faulty("Qx y", 1, 1);
         faulty("!x", 1, 1);
         faulty(" x", 1, 1);
+        faulty(" ", 1, 1);
         faulty("Q x\n\nQ x", 1, 4);
         faulty("\n", 1, 0);
         faulty("Q a>b", 1, 3);
