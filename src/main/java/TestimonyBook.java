@@ -25,6 +25,7 @@ public final class TestimonyBook {
     private static final int MOST_LINES = 200;
     private static final int MOST_RIGHTS = 100;
     private static final int MOST_FACTS = 150;
+    private static final int MOST_QUARRELS = MOST_FACTS * (MOST_FACTS - 1) / 2;
     private static final int MOST_MENTIONS = 100;
     private static final int MOST_EXHIBITS = 20;
     private static final int MOST_ORDERS = 60;
@@ -182,7 +183,7 @@ public final class TestimonyBook {
     }
 
     public int quarrels(int k) {
-        return bench.seekQuarrel(Integer.MAX_VALUE, k);
+        return bench.seekQuarrel(MOST_QUARRELS, k);
     }
 
     public int quarrel(int i, int k, int what) throws NoSuchElementException {

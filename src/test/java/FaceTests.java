@@ -9,6 +9,7 @@ import java.util.ArrayList;
 import java.util.Arrays;
 import java.util.HashSet;
 import java.util.List;
+import java.util.NoSuchElementException;
 import java.util.Set;
 import java.util.TreeSet;
 import java.util.regex.Matcher;
@@ -19,9 +20,12 @@ public final class FaceTests {
     private static final Trial trial = new Trial();
     private static final String FACE = "about/2 cite/2 cited/2 count/1 days/1 digest/3 fact/2 fault/0 feed/5 lift/1 "
             + "mention/2 name/2 order/3 quarrel/3 quarrels/1 read/4 right/2 shown/2 sitting/1 stands/2 status/3 told/1";
+    private static final String THROWS = " sitting:Argument right:Element,Argument days:Argument about:Element "
+            + "fact:Element stands:Element quarrel:Element mention:Element name:Element order:Element lift:Element "
+            + "status:Element read:Element,Argument told:Element cite:Element shown:Element count:Element ";
     private static final String[] BANNED = {"->", "::", "\\bcatch\\b", "\\btry\\b", "\\bfinally\\b",
         "\\bsynchronized\\b", "\\bassert\\b", "\\bstatic \\{", "\\bdouble\\b", "\\bfloat\\b", "Exact\\b",
-        "\\bSystem\\b", "\\bThread\\b", "\\bObject\\b", "@Override"};
+        "\\bSystem\\b", "_VALUE\\b", "\\bThread\\b", "\\bObject\\b", "@Override"};
 
     public static void main(String[] args) throws Exception {
         face();
@@ -41,16 +45,33 @@ public final class FaceTests {
             if (open && m instanceof Method method) {
                 methods.add(m.getName() + "/" + method.getParameterCount());
                 trial.due(m + " is no static one", Modifier.isStatic(m.getModifiers()) ? 1 : 0, 0);
+                trial.due(m + " throws", thrownBy(method), THROWS.contains(" " + m.getName() + ":")
+                        ? THROWS.replaceAll(".* " + m.getName() + ":([A-Za-z,]+).*", "$1") : "");
+                for (Class<?> parameter : method.getParameterTypes()) {
+                    trial.due(m + " takes", parameter.getName(), "int");
+                }
                 trial.due(m + " answers", method.getReturnType().getName(),
                         m.getName().equals("lift") ? "boolean" : "int");
-            } else if (open && m instanceof Field) {
+            } else if (open && m instanceof Field field) {
                 trial.due("the constant", m.getName(), "NONE");
+                trial.due("its kind", Modifier.toString(m.getModifiers()) + " " + field.getType(),
+                        "public static final int");
             } else if (open && m instanceof Constructor<?> made) {
                 trial.due("the constructor's parameters", made.getParameterCount(), 0);
             }
         }
         trial.due("the methods", String.join(" ", methods), FACE);
         trial.due("the class is final", Modifier.isFinal(TestimonyBook.class.getModifiers()) ? 1 : 0, 1);
+    }
+
+    /** What a method says that it throws, in short. */
+    private static String thrownBy(Method method) {
+        List<String> all = new ArrayList<>();
+        for (Class<?> one : method.getExceptionTypes()) {
+            all.add(one == NoSuchElementException.class ? "Element"
+                    : one == IllegalArgumentException.class ? "Argument" : one.getName());
+        }
+        return String.join(",", all);
     }
 
     private static void inside() {

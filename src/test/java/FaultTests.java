@@ -28,16 +28,11 @@ public final class FaultTests {
         if (!before.isEmpty()) {
             trial.due("ahead of it: " + before, Trial.sit(book, before) > 0 ? 1 : 0, 1);
         }
-        String told = "sitting '" + text.replace('\n', '/') + "'";
-        trial.due(told, Trial.sit(book, text), -1 - fault);
-        trial.due(told + " place", book.fault(), place);
+        trial.refused(book, text, fault, place);
     }
 
     private static void good(String text, int lines) {
-        TestimonyBook book = new TestimonyBook();
-        String told = "sitting '" + text.replace('\n', '/') + "'";
-        trial.due(told, Trial.sit(book, text), lines);
-        trial.due(told + " place", book.fault(), -1);
+        trial.taken(new TestimonyBook(), text, lines);
     }
 
     private static void bytesThatCannotStand() {
@@ -205,10 +200,7 @@ public final class FaultTests {
 
     private static void faultyRight(String before, int line, String rest, int fault, int place) {
         TestimonyBook book = Trial.bookOf(before);
-        String told = "right of " + line + " by '" + rest.replace('\n', '/') + "'";
-        trial.due(told, Trial.putRight(book, line, rest), fault);
-        trial.due(told + " place", book.fault(), place);
-        trial.due(told + " times", book.about(line, 6), fault == 0 ? 1 : 0);
+        trial.righted(book, line, rest, fault, place);
     }
 
     private static void rights() {

@@ -181,9 +181,9 @@ final class PlainBook {
     }
 
     private void gather(String line, List<Fault> found, Map<String, Integer> holders) {
-        int loose = stuckAt(LOOSE_NAMING, LOOSE_SPEECH, line);
-        int strict = stuckAt(NAMING, SPEECH, line);
         if (!NAMING.matcher(line).matches() && !SPEECH.matcher(line).matches()) {
+            int loose = stuckAt(LOOSE_NAMING, LOOSE_SPEECH, line);
+            int strict = stuckAt(NAMING, SPEECH, line);
             found.add(new Fault(1, loose));
             if (strict < loose) {
                 found.add(new Fault(2, strict));
