@@ -554,9 +554,10 @@ public final class TestimonyBook {
         }
 
         int timesRighted(int line) {
+            int rest = latest[line];
             int times = 0;
-            for (int rest = latest[line]; times < size && before[rest] != NONE; rest = before[rest]) {
-                times++;
+            for (; times < size && before[rest] != NONE; times++) {
+                rest = before[rest];
             }
             return times;
         }

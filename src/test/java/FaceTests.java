@@ -3,8 +3,6 @@ import java.lang.reflect.Field;
 import java.lang.reflect.Member;
 import java.lang.reflect.Method;
 import java.lang.reflect.Modifier;
-import java.nio.file.Files;
-import java.nio.file.Path;
 import java.util.ArrayList;
 import java.util.Arrays;
 import java.util.HashSet;
@@ -12,10 +10,8 @@ import java.util.List;
 import java.util.NoSuchElementException;
 import java.util.Set;
 import java.util.TreeSet;
-import java.util.regex.Matcher;
-import java.util.regex.Pattern;
 
-/** The document's face, and those rules of LANGUAGE.md that can be seen from outside or in the source's words. */
+/** The document's face, and what LANGUAGE.md says of it and of the classes inside. */
 public final class FaceTests {
     private static final Trial trial = new Trial();
     private static final String FACE = "about/2 cite/2 cited/2 count/1 days/1 digest/3 fact/2 fault/0 feed/5 lift/1 "
@@ -23,14 +19,10 @@ public final class FaceTests {
     private static final String THROWS = " sitting:Argument right:Element,Argument days:Argument about:Element "
             + "fact:Element stands:Element quarrel:Element mention:Element name:Element order:Element lift:Element "
             + "status:Element read:Element,Argument told:Element cite:Element shown:Element count:Element ";
-    private static final String[] BANNED = {"->", "::", "\\bcatch\\b", "\\btry\\b", "\\bfinally\\b",
-        "\\bsynchronized\\b", "\\bassert\\b", "\\bstatic \\{", "\\bdouble\\b", "\\bfloat\\b", "Exact\\b",
-        "\\bSystem\\b", "_VALUE\\b", "\\bThread\\b", "\\bObject\\b", "@Override"};
 
-    public static void main(String[] args) throws Exception {
+    public static void main(String[] args) {
         face();
         inside();
-        source();
         trial.finish();
     }
 
@@ -98,24 +90,6 @@ public final class FaceTests {
                         Modifier.isStatic(f.getModifiers()) && !Modifier.isFinal(f.getModifiers()) ? 1 : 0, 0);
             }
             trial.due(one + " has at most twenty fields", fields <= 20 ? 1 : 0, 1);
-        }
-    }
-
-    private static void source() throws Exception {
-        String source = Files.readString(Path.of("src/main/java/TestimonyBook.java"));
-        String words = source.replaceAll("(?s)/\\*.*?\\*/", "").replaceAll("//[^\n]*", "");
-        for (String banned : BANNED) {
-            trial.due("stands nowhere: " + banned, Pattern.compile(banned).matcher(words).find() ? 1 : 0, 0);
-        }
-        Matcher imports = Pattern.compile("import ([^;]*);").matcher(words);
-        while (imports.find()) {
-            trial.due("an import: " + imports.group(1),
-                    imports.group(1).matches("java.util.(Arrays|NoSuchElementException)") ? 1 : 0, 1);
-        }
-        Matcher thrown = Pattern.compile("throw ([^;]*);").matcher(words);
-        while (thrown.find()) {
-            trial.due("a throw: " + thrown.group(1), thrown.group(1)
-                    .matches("new (NoSuchElement|IllegalArgument)Exception\\(\"[a-z ]*\"\\)") ? 1 : 0, 1);
         }
     }
 }
